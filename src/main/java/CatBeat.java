@@ -569,7 +569,7 @@ public final class CatBeat {
 
     /** The steps that trim() tells, as bits; 0 if there are none. */
     private int fewestLeftOut() {
-        int now = lost();
+        int now = thieves.howManyTake(ward, night);
         if (now == 0) {
             return 0;
         }

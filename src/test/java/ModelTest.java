@@ -36,6 +36,7 @@ public final class ModelTest {
         for (; calls < CALLS; calls++) {
             step(random.nextInt(48));
         }
+        due("digest", x.digest(), Due.digestOf(x));
     }
 
     private int typeBoth(int text, String bytes) {

@@ -204,6 +204,24 @@ public final class SheetTest {
         Due.due("count(9)", x.count(9), -2);
     }
 
+    /** A shop that is seen but in fog, so that the digest must ask about fog with the right numbers. */
+    private static CatBeat foggy() {
+        CatBeat x = Due.of("s...s;.....;s...s", "", "001;002;043");
+        x.set(0, 2);
+        Due.dueTrue("fog for 5 or 6 steps", x.fogged(5, 5, 0, 0) != x.fogged(5, 6, 0, 0));
+        Due.dueTrue("fog by 5 or 6", x.fogged(5, 5, 0, 0) != x.fogged(6, 5, 0, 0));
+        return x;
+    }
+
+    /** Shops that are lost by one night of lots but not by another, likewise. */
+    private static CatBeat drawn() {
+        CatBeat x = Due.of("s.s;s..;..s", "", "009;029;034");
+        x.set(2, 1);
+        Due.dueTrue("lots, 12 or 13", x.nights(7, 12, 0) != x.nights(7, 13, 0));
+        Due.dueTrue("lots, by 7 or 8", x.nights(7, 12, 0) != x.nights(8, 12, 0));
+        return x;
+    }
+
     private static void digesting() {
         Due.due("digest() of a new object", new CatBeat().digest(), -7431077176121857231L);
         CatBeat[] some = {
@@ -212,40 +230,20 @@ public final class SheetTest {
             Due.of("#s#;s.s;#s#", "nwse.nn", "012;036;052;079"),
             Due.of("s.x", "nesw", "001"),
             Due.of("......;.s..s.;.#..#.;l....d;.s..s.;......", "eeeeessssswwwwwnnnn.nesw", "073;105;256;289;072;391"),
+            Due.of("......;......;......;..s..s;......;s....s", "es", "208;231"),
+            foggy(),
+            drawn(),
         };
         for (CatBeat x : some) {
-            dueDigest(x);
+            Due.due("digest()", x.digest(), Due.digestOf(x));
             x.missed(7, 1);
             x.set(0, 4);
             x.set(2, 1);
-            dueDigest(x);
+            Due.due("digest() behind changes", x.digest(), Due.digestOf(x));
             x.lose(0);
             long before = x.digest();
             x.sheet(0, 1, 5);
             Due.due("digest() is blind to sheets", x.digest(), before);
         }
-    }
-
-    private static void dueDigest(CatBeat x) {
-        java.util.ArrayList<Long> all = new java.util.ArrayList<>();
-        for (int i = 0; i < 8; i++) all.add((long) x.count(i));
-        for (int i = 0; i < 3; i++) all.add((long) x.fault(i));
-        for (int i = 0; i < x.count(0); i++) addAll(all, x.cell(i), x.seen(i, 0), x.seen(i, 1));
-        for (int i = 0; i < x.count(1); i++) addAll(all, x.beat(i));
-        for (int i = 0; i < x.count(2); i++) {
-            addAll(all, x.thief(i, 0), x.thief(i, 1), x.takes(i), x.meant(i, -1), x.meant(i, 0));
-            addAll(all, x.fogged(5, 5, i, 0), x.fogged(5, 5, i, 1));
-        }
-        for (int steps : new int[] {0, 7, 50, 95}) addAll(all, x.at(steps), x.sees(steps, 0), x.sees(steps, 1));
-        addAll(all, x.safe(0), x.safe(1), x.lost(), x.first(), x.spare(), x.trim(-1), x.trim(0));
-        addAll(all, x.begin(0), x.begin(1), x.recruit(0), x.recruit(1), x.omitted(), x.ask());
-        addAll(all, x.nights(7, 12, 0), x.nights(7, 12, 1));
-        long h = 17;
-        for (long v : all) h = 31 * h + v;
-        Due.due("digest()", x.digest(), h);
-    }
-
-    private static void addAll(java.util.ArrayList<Long> all, long... more) {
-        for (long v : more) all.add(v);
     }
 }
