@@ -5,15 +5,21 @@ import java.util.List;
 final class Due {
     private static int calls = 0;
     private static int wrong = 0;
+    private static String sentence = "";
 
     private Due() {
+    }
+
+    /** What comes next is asked for by this sentence of the document, which a wrong answer is told with. */
+    static void under(String asked) {
+        sentence = asked.isEmpty() ? "" : "[" + asked + "] ";
     }
 
     static void due(String call, long got, long want) {
         calls++;
         if (got != want) {
             wrong++;
-            System.out.println(call + " answered " + got + ", due is " + want);
+            System.out.println(sentence + call + " answered " + got + ", due is " + want);
         }
     }
 
