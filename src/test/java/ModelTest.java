@@ -1,8 +1,9 @@
 import java.util.Random;
 
-/** All calls in random runs of up to 512, each against the answer of the Model. */
+/** All calls in random runs, each against the answer of the Model. */
 public final class ModelTest {
-    private static final int RUNS = 150, CALLS = 512;
+    /** Behind so many calls a run may yet write a text again, and put a digest together, within its 512. */
+    private static final int RUNS = 350, LAST_STEP = 230, MOST_CALLS = 512;
     private static final int[] ODD_NUMBERS = {-1, -2, 36, 60, 61, 96, 255, 256, Integer.MIN_VALUE, Integer.MAX_VALUE};
 
     private final Random random;
@@ -11,6 +12,7 @@ public final class ModelTest {
     private final int oddOneOf;
     private final CatBeat x = new CatBeat();
     private final Model m = new Model();
+    private int calls = 0;
 
     private ModelTest(int seed) {
         random = new Random(seed);
@@ -26,31 +28,29 @@ public final class ModelTest {
     }
 
     private void go() {
-        int calls = 0;
         if (random.nextInt(5) > 0) {
-            calls += typeBoth(0, randomWard(1 + random.nextInt(6), 1 + random.nextInt(6)));
+            typeBoth(0, randomWard(1 + random.nextInt(6), 1 + random.nextInt(6)));
         }
         if (random.nextInt(5) > 0) {
-            calls += typeBoth(1, randomOf("nesw.", random.nextInt(random.nextBoolean() ? 8 : 25)));
+            typeBoth(1, randomOf("nesw.", random.nextInt(random.nextBoolean() ? 8 : 25)));
         }
         if (random.nextInt(5) > 0) {
-            calls += typeBoth(2, randomThieves(1 + random.nextInt(8)));
+            typeBoth(2, randomThieves(1 + random.nextInt(8)));
         }
-        for (; calls < CALLS; calls++) {
+        for (int steps = 0; steps < MOST_CALLS && calls < LAST_STEP; steps++) {
             step(random.nextInt(48));
         }
         due("digest", x.digest(), Due.digestOf(x));
     }
 
-    private int typeBoth(int text, String bytes) {
+    private void typeBoth(int text, String bytes) {
         for (int i = 0; i < bytes.length(); i++) {
             type(text, bytes.charAt(i));
         }
-        return bytes.length();
     }
 
     private void type(int text, int b) {
-        Due.due(run + "type(" + text + ", " + b + ")", x.type(text, b), m.type(text, b));
+        due("type", x.type(text, b), m.type(text, b), text, b);
     }
 
     private String randomOf(String signs, int n) {
@@ -99,6 +99,7 @@ public final class ModelTest {
     }
 
     private void due(String call, long got, long want, int... args) {
+        calls++;
         StringBuilder name = new StringBuilder(run).append(call);
         for (int arg : args) {
             name.append(' ').append(arg);

@@ -34,6 +34,7 @@ public final class SheetEdgesTest {
         digestOfNothing();
         digestWraps();
         digestOfTheMost();
+        digestOfToldNumbers();
         Due.end();
     }
 
@@ -472,5 +473,21 @@ public final class SheetEdgesTest {
             y.missed(5 * i, i % 2);
         }
         Due.due("digest() with all that may be missed", y.digest(), Due.digestOf(y));
+    }
+
+    /** Where each number of steps leads elsewhere than its neighbours, the digest must ask about the told ones. */
+    private static void digestOfToldNumbers() {
+        Due.under("of numbers of STEPS 0, 7, 50, 95 at(), sees() 0, 1; .. nights(7, 12, 0 and 1)");
+        CatBeat x = Due.of("......;......;......;......;......;......", "ew", "");
+        x.set(0, 14);
+        x.set(2, 1);
+        int[] told = {0, 7, 50, 95};
+        for (int steps : told) {
+            Due.due("at(" + steps + ")", x.at(steps), 14 + steps % 2);
+        }
+        Due.due("nights(7, 11, 1)", x.nights(7, 11, 1), 8);
+        Due.due("nights(7, 12, 1)", x.nights(7, 12, 1), 9);
+        Due.due("nights(7, 13, 1)", x.nights(7, 13, 1), 3);
+        Due.due("digest()", x.digest(), Due.digestOf(x));
     }
 }

@@ -229,7 +229,7 @@ public final class SheetTest {
             Due.of("..s.;.#l.;s.ds", "eesswwnn", "023;083;119;021;104"),
             Due.of("#s#;s.s;#s#", "nwse.nn", "012;036;052;079"),
             Due.of("s.x", "nesw", "001"),
-            Due.of("......;.s..s.;.#..#.;l....d;.s..s.;......", "eeeeessssswwwwwnnnn.nesw", "073;105;256;289;072;391"),
+            Due.of("......;.s..s.;.#..#.;l....d;.s..s.;......", "eessww.nnes.", "073;105;256;289;072;391"),
             Due.of("......;......;......;..s..s;......;s....s", "es", "208;231"),
             foggy(),
             drawn(),

@@ -33,6 +33,7 @@ public final class TextEdgesTest {
         stepsNumbered();
         thiefNumbers();
         settingsFromTo();
+        usedFor512Calls();
         Due.end();
     }
 
@@ -461,5 +462,32 @@ public final class TextEdgesTest {
         for (int what : wrong) {
             Due.due("set(" + what + ", 0)", x.set(what, 0), -2);
         }
+    }
+
+    /** Texts go to their ends and back, so that nothing that is kept may grow with the calls. */
+    private static void usedFor512Calls() {
+        Due.under("An object is used for at most 512 calls after it has been made");
+        CatBeat x = Due.of(WHOLE_WARD, WHOLE_BEAT, ALL_THIEVES);
+        int calls = WHOLE_WARD.length() + WHOLE_BEAT.length() + ALL_THIEVES.length();
+        for (; calls < 500; calls += 4) {
+            Due.due("undo(0)", x.undo(0), 40);
+            Due.due("type(0, 's')", x.type(0, 's'), 41);
+            Due.due("sheet(3, 2, 60)", x.sheet(3, 2, 60), 60);
+            int missed = (calls - 96) / 4 + 1;
+            Due.due("missed(35, 1)", x.missed(35, 1), missed <= 8 ? missed : -4);
+        }
+        Due.due("calls", calls, 500);
+        Due.due("count(0)", x.count(0), 36);
+        Due.due("count(6)", x.count(6), 1);
+        Due.due("count(7)", x.count(7), 8);
+        Due.due("takes(3)", x.takes(3), -1);
+        Due.due("cell(35)", x.cell(35), 2);
+        Due.due("fault(0)", x.fault(0), -1);
+        Due.due("at(95)", x.at(95), 7);
+        Due.due("type, FULL", x.type(0, 's'), -4);
+        Due.due("type, BAD", x.type(0, 256), -2);
+        Due.due("get(3, 2, 59)", x.get(3, 2, 59), 0);
+        Due.due("omitted()", x.omitted(), 0);
+        Due.due("the 512th call, forget()", x.forget(), 8);
     }
 }
