@@ -101,8 +101,15 @@ public final class FaceTest {
                 Due.dueTrue(word + " in: " + line, !there);
             }
             Due.dueTrue("import in: " + line, !code.startsWith("import") || code.equals("import java.util.Arrays;"));
+            Due.dueTrue("rows are made with the object alone, not in: " + line, !code.contains("new ") || isMadeAtFirst(code.trim()));
             sinceHead = code.endsWith(") {") && code.matches("\\s+(public |private |static |final )*\\w+(\\[\\])* ?\\w*\\(.*") ? 0 : sinceHead + 1;
             Due.dueTrue("a method of some sixty lines before: " + line, sinceHead <= 60);
         }
+    }
+
+    /** A field's own row, or one of the rows that the constructors of CatBeat and Text make. */
+    private static boolean isMadeAtFirst(String code) {
+        return code.matches("(private )?final \\S+ \\w+ = new .*") || code.equals("texts[text] = new Text(TEXT_LIMITS[text]);")
+            || code.equals("sheets[s] = new Sheet();") || code.equals("bytes = new int[Math.max(limit, 0)];");
     }
 }
